@@ -40,6 +40,7 @@ public final class PromiseTest {
         normaliseRefused();
         keepAndSame();
         sameWithCuts();
+        sameByNames();
         sameNeedsNets();
         rule();
         ruleOrder();
@@ -225,9 +226,20 @@ public final class PromiseTest {
         }
         due("one too many", run(() -> z.dual(40)), STATE);
         due("nothing is changed", z.formula(41, 0), NONE);
-        due("all but the last", z.dual(38), 79);
+        due("one of these is formula 0", run(() -> z.dual(39)), STATE);
+        due("nothing is changed", z.formula(41, 0), NONE);
+        due("all but the last two", z.dual(38), 79);
         due("one more is too many", run(() -> z.dual(39)), STATE);
         due("no such formula at 80", run(() -> z.dual(80)), ARGUMENT);
+
+        SwitchedNets w = new SwitchedNets();
+        w.atom(0, true);
+        for (int f = 1; f < 80; f++) {
+            w.pair(f - 1, 0, true);
+        }
+        due("an atom's dual at 80", run(() -> w.dual(0)), STATE);
+        due("an axiom's dual at 80", run(() -> w.axiom(0)), STATE);
+        due("links()", w.links(), 0);
     }
 
     private static void formula() {
@@ -621,6 +633,7 @@ public final class PromiseTest {
         due("not complete", x.fault(), NONE);
         x.conclude(1);
         x.conclude(5);
+        due("complete, and not judged yet", x.fault(), 1);
         due("judge(): a cycle by the right one alone", x.judge(), 1);
         due("fault()", x.fault(), 1);
         x.axiom(0);
@@ -648,6 +661,7 @@ public final class PromiseTest {
         due("not connected: judge()", x.judge(), 2);
         due("not connected", x.fault(), 0);
         x.build(x.pair(0, 1, false), 0);
+        due("a net, and not judged yet", x.fault(), NONE);
         due("a net: judge()", x.judge(), 0);
         due("a net", x.fault(), NONE);
         longCycle(x, 2);
@@ -1059,6 +1073,25 @@ public final class PromiseTest {
         y.conclude(2);
         y.conclude(5);
         due("drawn with its axioms crossed", y.same(), false);
+    }
+
+    /** Two axioms in a tensor: its edge is conclusion 0, and then one that is free comes first. */
+    private static void sameByNames() {
+        promise = "promise 21";
+        SwitchedNets x = new SwitchedNets();
+        x.atom(0, true);
+        for (int first = 0; first < 2; first++) {
+            x.clear();
+            axioms(x, 2);
+            x.link(1, 3, true);
+            x.conclude(4);
+            x.conclude(first == 0 ? 0 : 2);
+            x.conclude(first == 0 ? 2 : 0);
+            if (first == 0) {
+                x.keep();
+            }
+            due("conclusions 1 and 2 of one formula", x.same(), first == 0);
+        }
     }
 
     private static void sameNeedsNets() {
