@@ -889,6 +889,11 @@ public final class BoundaryTest {
         due("the other name stays", name.conclusion(0), 3);
         due("it has no second name", name.conclude(2), NONE);
         due("no name came", name.conclusion(2), NONE);
+        Bench second = axioms(2);
+        second.conclude(1);
+        second.cut(0, 3);
+        second.reduce(0);
+        due("the axiom's second edge's name", second.conclusion(0), 3);
         Bench free = axioms(2);
         free.cut(1, 2);
         free.reduce(0);
@@ -998,6 +1003,7 @@ public final class BoundaryTest {
         dualOrder();
         dualOfNothing();
         dualAt80();
+        dualAt80OfEachPart();
         formulaOrWhat();
     }
 
@@ -1123,6 +1129,42 @@ public final class BoundaryTest {
         Bench chance = formulas(79);
         chance.pair(1, 0, false);
         due("at 80, one that came as a pair", chance.dual(2), 79);
+    }
+
+    /** So many formulas: two letters, then each the tensor of the second letter and the last one. */
+    private static Bench row(int count, boolean lastIsLeft) {
+        Bench x = letter();
+        x.atom(1, true);
+        x.pair(lastIsLeft ? 0 : 1, lastIsLeft ? 1 : 0, true);
+        for (int f = 3; f < count; f++) {
+            x.pair(lastIsLeft ? f - 1 : 1, lastIsLeft ? 1 : f - 1, true);
+        }
+        return x;
+    }
+
+    private static void dualAt80OfEachPart() {
+        begin("Promise 4: dual", "there would be more than 80 then");
+        for (boolean lastIsLeft : new boolean[] {true, false}) {
+            due("40 and their duals", row(40, lastIsLeft).dual(39), 79);
+            Supplier<Bench> oneTooMany = () -> {
+                Bench x = row(40, lastIsLeft);
+                x.atom(2, true);
+                return x;
+            };
+            refused(oneTooMany, "41 and 40 duals", x -> x.dual(39), STATE);
+            due("41 and 39 duals", oneTooMany.get().dual(38), 79);
+            refused(() -> row(41, lastIsLeft), "41 and their duals", x -> x.dual(40), STATE);
+        }
+        Bench x = letter();
+        x.atom(1, true);
+        for (int f = 2; f < 41; f++) {
+            x.pair(f - 1, f - 1, true);
+        }
+        due("formula 41 has formula 0 as a part", x.pair(0, 39, true), 41);
+        due("42 and 41 duals", x.dual(41), STATE);
+        due("42 and 38 duals, not that of formula 0", x.dual(38), 79);
+        due("the duals of all its parts came", x.dual(1), 42);
+        due("that of formula 0 did not", x.dual(0), STATE);
     }
 
     private static void formulaOrWhat() {
@@ -1678,6 +1720,9 @@ public final class BoundaryTest {
         emptyAtFirst();
         inPlaceOfTheLast();
         bothNets();
+        sameBut();
+        sameOfMany();
+        leastNumbers();
         ruleOfWhat();
     }
 
@@ -1762,6 +1807,128 @@ public final class BoundaryTest {
         due("a cut more", numbers.same(), NO);
         numbers.reduce(0);
         due("behind those that are gone", numbers.same(), YES);
+    }
+
+    /** Two axioms, a tensor and a par, drawn by their edges; then the order of the conclusions. */
+    private static void draw(Bench x, int f, int[] tensor, int[] par, boolean tensorFirst) {
+        x.clear();
+        x.axiom(f);
+        x.axiom(0);
+        x.link(tensor[0], tensor[1], true);
+        x.link(par[0], par[1], false);
+        x.conclude(tensorFirst ? 4 : 5);
+        x.conclude(tensorFirst ? 5 : 4);
+    }
+
+    private static void sameBut() {
+        begin("Promise 21: same", "the same but for the numbers of links and edges, and for which edge of an axiom is "
+                + "its first one; conclusions by their numbers, premises left and right");
+        Bench x = letter();
+        draw(x, 0, new int[] {0, 2}, new int[] {1, 3}, true);
+        x.keep();
+        due("the same", x.same(), YES);
+        draw(x, 1, new int[] {1, 2}, new int[] {0, 3}, true);
+        due("an axiom's edges the other way", x.same(), YES);
+        draw(x, 0, new int[] {2, 0}, new int[] {3, 1}, true);
+        due("the axioms' numbers", x.same(), YES);
+        draw(x, 0, new int[] {0, 2}, new int[] {1, 3}, false);
+        due("the conclusions' numbers", x.same(), NO);
+        draw(x, 0, new int[] {2, 0}, new int[] {1, 3}, true);
+        due("a tensor's premises", x.same(), NO);
+        draw(x, 0, new int[] {0, 2}, new int[] {3, 1}, true);
+        due("a par's premises", x.same(), NO);
+        x.clear();
+        withAxioms(x, 2);
+        x.link(1, 3, false);
+        x.link(0, 2, true);
+        x.conclude(5);
+        x.conclude(4);
+        due("the links' numbers", x.same(), YES);
+        x.clear();
+        x.axiom(x.atom(1, true));
+        x.conclude(0);
+        x.conclude(1);
+        x.keep();
+        x.clear();
+        x.axiom(0);
+        x.conclude(0);
+        x.conclude(1);
+        due("an atom's letter", x.same(), NO);
+        x.keep();
+        x.clear();
+        x.axiom(1);
+        x.conclude(0);
+        x.conclude(1);
+        due("one axiom, its conclusions' formulas", x.same(), NO);
+    }
+
+    /** The great net with its axioms in turn the other way and its tensors from the last to the first. */
+    private static void sameOfMany() {
+        begin("Promise 21: same", "the same but for the numbers of links and edges");
+        for (int changed = 0; changed < 3; changed++) {
+            Bench x = greatNet();
+            x.keep();
+            x.clear();
+            for (int i = 0; i < 12; i++) {
+                x.axiom(i % 2);
+            }
+            for (int i = 10; i >= 0; i--) {
+                int left = 2 * i + 1 - i % 2;
+                int right = 2 * i + 2 + (i + 1) % 2;
+                x.link(changed == 1 && i == 0 ? right : left, changed == 1 && i == 0 ? left : right, true);
+            }
+            x.link(0, 22, false);
+            for (int i = 0; i < 10; i++) {
+                x.conclude(34 - i);
+            }
+            x.conclude(changed == 2 ? 35 : 24);
+            x.conclude(changed == 2 ? 24 : 35);
+            due("judge()", x.judge(), 0);
+            due("24 links, change " + changed, x.same(), changed == 0 ? YES : NO);
+        }
+    }
+
+    private static void dueRow(String what, Bench x, int... want) {
+        for (int i = 0; i < want.length; i++) {
+            due(what + ", rule(" + i + ")", x.rule(i), want[i]);
+        }
+        due(what + ", one more", x.rule(want.length), NONE);
+    }
+
+    private static void leastNumbers() {
+        begin("Terms", "the one with the least number without which what is left falls into two pieces");
+        Bench x = axioms(3);
+        x.link(3, 4, true);
+        x.link(1, 2, true);
+        for (int e : new int[] {0, 5, 6, 7}) {
+            x.conclude(e);
+        }
+        dueRow("two that split", x, 3, 4, 0, 1, 2);
+        Bench cut = axioms(3);
+        cut.cut(1, 2);
+        cut.link(3, 4, true);
+        for (int e : new int[] {0, 5, 6}) {
+            cut.conclude(e);
+        }
+        dueRow("a cut before a tensor", cut, 3, 0, 4, 1, 2);
+        Bench later = axioms(3);
+        later.link(0, 2, true);
+        later.link(1, 3, false);
+        later.link(4, 7, true);
+        for (int e : new int[] {5, 6, 8}) {
+            later.conclude(e);
+        }
+        dueRow("the first one does not split, by a par's premises", later, 5, 2, 4, 3, 0, 1);
+        Bench above = axioms(3);
+        above.link(1, 2, true);
+        above.link(6, 4, true);
+        for (int e : new int[] {0, 3, 5, 7}) {
+            above.conclude(e);
+        }
+        dueRow("the first one is a premise", above, 4, 3, 0, 1, 2);
+        Bench pars = eightParNet();
+        dueRow("pars, the last of a row first", pars, 22, 21, 20, 19, 18, 17, 16, 15,
+                8, 0, 9, 1, 10, 2, 11, 3, 12, 4, 13, 5, 14, 6, 7);
     }
 
     private static void ruleOfWhat() {
