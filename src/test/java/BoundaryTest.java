@@ -522,6 +522,7 @@ public final class BoundaryTest {
         goneEdges();
         proofOfOneAxiom();
         occurrencesAtMost8();
+        occurrencesInARow();
         firstNamedException();
     }
 
@@ -973,6 +974,32 @@ public final class BoundaryTest {
         due("11", x.linkings(x.pair(even[10], 0, false)), NONE);
     }
 
+    /** Tensors and pars in turn, in a row to the left or to the right: seven parts within parts. */
+    private static void occurrencesInARow() {
+        begin("Terms", "THE OCCURRENCES of a formula are the places of atoms in it, from 0, from left to right.");
+        Bench x = formulas(2);
+        int toTheLeft = 0;
+        int toTheRight = 0;
+        for (int n = 1; n < 8; n++) {
+            boolean tensor = n % 2 == 0;
+            toTheLeft = x.pair(toTheLeft, n % 2, tensor);
+            toTheRight = x.pair(n % 2, toTheRight, tensor);
+        }
+        due("to the left", x.linkings(toTheLeft), 1);
+        due("to the right", x.linkings(toTheRight), 1);
+        for (int k = 0; k < 8; k++) {
+            due("partner of " + k + " to the left", x.partner(toTheLeft, 0, k), k ^ 1);
+            due("partner of " + k + " to the right", x.partner(toTheRight, 0, k), k ^ 1);
+        }
+        due("built to the left", x.build(toTheLeft, 0), 11);
+        due("judge()", x.judge(), 0);
+        due("built to the right", x.build(toTheRight, 0), 11);
+        due("judge()", x.judge(), 0);
+        due("the innermost link comes first", x.look(4, 2), 7);
+        due("9 to the left", x.linkings(x.pair(toTheLeft, 0, true)), NONE);
+        due("9 to the right", x.linkings(x.pair(0, toTheRight, true)), NONE);
+    }
+
     private static void firstNamedException() {
         begin("Terms", "Calls that name exceptions throw them as their comments say, the one named first "
                 + "when several would do; a call that throws, or is refused, changes nothing.");
@@ -1192,6 +1219,7 @@ public final class BoundaryTest {
 
     private static void drawingPromises() {
         numbersBeginAgain();
+        nothingIsLeftBehind();
         linksThatWere();
         axiomOfNothing();
         axiomRoom();
@@ -1223,6 +1251,48 @@ public final class BoundaryTest {
             x.reduce(0);
         }
         due("there is room for 60 links again", x.axiom(0), 57);
+    }
+
+    /** Three axioms and two cuts, cleared; then so many axioms where there were other links. */
+    private static Bench cleared(int axioms) {
+        Bench x = axioms(1);
+        x.cut(0, 1);
+        x.axiom(0);
+        x.cut(2, 3);
+        x.axiom(0);
+        x.conclude(4);
+        x.clear();
+        return withAxioms(x, axioms);
+    }
+
+    private static void nothingIsLeftBehind() {
+        begin("Promise 6: clear", "There are no links and edges then");
+        for (int count = 0; count < 4; count++) {
+            int axioms = count;
+            Supplier<Bench> state = () -> cleared(axioms);
+            Bench x = state.get();
+            due("cuts()", x.cuts(), 0);
+            due("links()", x.links(), axioms);
+            for (int link = axioms; link < 6; link++) {
+                due("look(" + link + ", 0)", x.look(link, 0), NONE);
+                due("look(" + link + ", 1)", x.look(link, 1), NONE);
+            }
+            for (int i = 0; i < 3; i++) {
+                int c = i;
+                due("conclusion(" + c + ")", x.conclusion(c), NONE);
+                refused(state, "reduce(" + c + ")", y -> y.reduce(c), NO);
+            }
+            int e = 2 * axioms;
+            due("type(" + e + ")", x.type(e), NONE);
+            refused(state, "normalise(0)", y -> y.normalise(0), NONE);
+            refused(state, "conclude(" + e + ")", y -> y.conclude(e), NONE);
+            refused(state, "link(0, " + e + ", true)", y -> y.link(0, e, true), ARGUMENT);
+            refused(state, "cut(0, " + (e + 1) + ")", y -> y.cut(0, e + 1), ARGUMENT);
+            refused(state, "cut(" + (e + 1) + ", 0)", y -> y.cut(e + 1, 0), ARGUMENT);
+        }
+        Bench full = withAxioms(cleared(1), 23);
+        due("edges of axioms are free again", full.conclude(0), 0);
+        due("all of them", full.conclude(4), 1);
     }
 
     private static void linksThatWere() {
@@ -1633,21 +1703,42 @@ public final class BoundaryTest {
         due("the place as a free edge", full.conclude(58), 0);
     }
 
-    /** Three cuts in a row of four axioms: which axiom is left tells which cuts came when. */
+    /** Four axioms in a row with three cuts; bit i of turned tells that cut i is the other way. */
+    private static Bench turnedChain(int turned) {
+        Bench x = axioms(4);
+        for (int i = 0; i < 3; i++) {
+            boolean otherWay = (turned >> i & 1) == 1;
+            x.cut(2 * i + (otherWay ? 2 : 1), 2 * i + (otherWay ? 1 : 2));
+        }
+        x.conclude(0);
+        x.conclude(7);
+        return x;
+    }
+
+    /** The axiom that stays tells by some of the ways in which cuts are turned which one came when. */
     private static void normaliseModulo() {
         begin("Promise 19: normalise", "each time the c-th one, with c the pick modulo the number of cuts");
         for (int pick : new int[] {0, 1, 2, 3, 4, 5, 6, 7, GREATEST - 1, GREATEST}) {
-            Bench byHand = chain(4);
-            for (int cuts = 3; cuts > 0; cuts--) {
-                byHand.reduce(pick % cuts);
+            for (int turned = 0; turned < 8; turned++) {
+                Bench byHand = turnedChain(turned);
+                for (int cuts = 3; cuts > 0; cuts--) {
+                    byHand.reduce(pick % cuts);
+                }
+                Bench x = turnedChain(turned);
+                String call = "normalise(" + pick + ") of cuts turned " + turned;
+                due(call, x.normalise(pick), 3);
+                for (int link = 0; link < 4; link++) {
+                    due("link " + link + " after " + call, x.look(link, 1), byHand.look(link, 1));
+                }
+                due("conclusion(0) after " + call, x.conclusion(0), byHand.conclusion(0));
+                due("conclusion(1) after " + call, x.conclusion(1), byHand.conclusion(1));
             }
-            Bench x = chain(4);
-            due("normalise(" + pick + ")", x.normalise(pick), 3);
-            for (int link = 0; link < 7; link++) {
-                due("link " + link + " after normalise(" + pick + ")", x.look(link, 1), byHand.look(link, 1));
-            }
-            due("conclusion(0)", x.conclusion(0), byHand.conclusion(0));
-            due("conclusion(1)", x.conclusion(1), byHand.conclusion(1));
+        }
+        int[] staying = {3, 0, 3, 3, 3, 0, 3, 0};
+        for (int pick = 0; pick < 8; pick++) {
+            Bench x = turnedChain(1);
+            x.normalise(pick);
+            due("the axiom that stays after normalise(" + pick + ")", x.rule(0), staying[pick]);
         }
         due("no cut", chain(1).normalise(0), 0);
         due("no cut, the greatest pick", chain(1).normalise(GREATEST), 0);
@@ -1860,6 +1951,19 @@ public final class BoundaryTest {
         x.conclude(0);
         x.conclude(1);
         due("one axiom, its conclusions' formulas", x.same(), NO);
+        for (int changed = 0; changed < 2; changed++) {
+            x.clear();
+            withAxioms(x, 3);
+            x.cut(changed == 0 ? 1 : 3, changed == 0 ? 2 : 4);
+            x.link(changed == 0 ? 3 : 1, changed == 0 ? 4 : 2, true);
+            for (int e : new int[] {0, 5, 6}) {
+                x.conclude(e);
+            }
+            if (changed == 0) {
+                x.keep();
+            }
+            due("a cut and a tensor, change " + changed, x.same(), changed == 0 ? YES : NO);
+        }
     }
 
     /** The great net with its axioms in turn the other way and its tensors from the last to the first. */
@@ -1919,6 +2023,24 @@ public final class BoundaryTest {
             later.conclude(e);
         }
         dueRow("the first one does not split, by a par's premises", later, 5, 2, 4, 3, 0, 1);
+        Bench far = axioms(4);
+        far.link(0, 2, true);
+        far.link(1, 4, true);
+        far.link(9, 3, false);
+        far.link(10, 6, true);
+        for (int e : new int[] {5, 7, 8, 11}) {
+            far.conclude(e);
+        }
+        dueRow("nor by a way through a tensor's edge", far, 7, 6, 4, 5, 0, 2, 1, 3);
+        Bench through = axioms(4);
+        through.link(0, 2, true);
+        through.cut(1, 4);
+        through.link(5, 3, false);
+        through.link(9, 6, true);
+        for (int e : new int[] {7, 8, 10}) {
+            through.conclude(e);
+        }
+        dueRow("nor by a way through a cut", through, 7, 6, 4, 5, 0, 2, 1, 3);
         Bench above = axioms(3);
         above.link(1, 2, true);
         above.link(6, 4, true);
@@ -2122,12 +2244,17 @@ public final class BoundaryTest {
                     x.keep();
                     return x;
                 },
-                () -> withAxioms(wornSplit(53), 3));
+                () -> withAxioms(wornSplit(53), 3),
+                () -> cleared(3));
         int refusals = 0;
         for (Supplier<Bench> state : states) {
             List<List<Integer>> before = portrait(state, x -> 0);
             for (Map.Entry<String, ToIntFunction<Bench>> call : calls().entrySet()) {
-                if (isRefused(call.getKey(), call.getValue().applyAsInt(state.get()))) {
+                int answer = call.getValue().applyAsInt(state.get());
+                if (answer == ANOTHER_EXCEPTION || answer < NONE && !namesExceptions(call.getKey())) {
+                    fault(call.getKey() + " throws what the document does not name");
+                }
+                if (isRefused(call.getKey(), answer)) {
                     refusals++;
                     changesNothing(before, state, call.getKey(), call.getValue());
                 }
@@ -2138,10 +2265,17 @@ public final class BoundaryTest {
         }
     }
 
+    private static boolean namesExceptions(String call) {
+        return List.of("atom", "pair", "dual", "axiom", "link", "cut").contains(nameOf(call));
+    }
+
+    private static String nameOf(String call) {
+        return call.substring(0, call.indexOf('('));
+    }
+
     /** Calls that only tell something are to change nothing whatever they answer. */
     private static boolean isRefused(String call, int answer) {
-        String name = call.substring(0, call.indexOf('('));
-        switch (name) {
+        switch (nameOf(call)) {
             case "atom":
             case "pair":
             case "dual":
